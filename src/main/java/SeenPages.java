@@ -41,7 +41,6 @@ public final class SeenPages {
     private static final long FIRST_HASH = 3467L;
     private static final int ONES_EXPONENT = 1023;
     private static final int FRACTION_BITS = 52;
-    private static final double TWO_TO_THE_52 = 4503599627370496.0;
 
     private final State state;
     private final History history;
@@ -472,7 +471,7 @@ public final class SeenPages {
         for (; significand < 1.0 && exponent > 1; exponent--) {
             significand = significand * 2.0;
         }
-        long fraction = (long) ((significand - 1.0) * TWO_TO_THE_52);
+        long fraction = (long) ((significand - 1.0) * (double) (1L << FRACTION_BITS));
         return ((long) exponent << FRACTION_BITS) + fraction;
     }
 

@@ -89,6 +89,7 @@ public final class TextsTest {
         SeenPages last = Expect.full();
         Expect.type(last, "-23,-19,~4,~5,10=6");
         Expect.same("places with two digits", 5, last.play());
+        Expect.same("place 23 went, and was swept", -1, last.slot(23, 0));
         Expect.same("the lowest empty slot", 6, last.slot(19, 0));
         Expect.same("place 10 went", 27, last.slot(10, 2));
     }

@@ -3,6 +3,7 @@ public final class UndoTest {
     public static void main(String[] args) {
         nothingToUndo();
         sixAreSaved();
+        changesAreSaved();
         eachUndoableCallIsSaved();
         othersAreNotSaved();
         allIsRestored();
@@ -31,6 +32,21 @@ public final class UndoTest {
         }
         Expect.throwsState("the oldest three are dropped", () -> pages.undo());
         Expect.same("clock", 3, pages.count(0));
+    }
+
+    private static void changesAreSaved() {
+        SeenPages pages = new SeenPages();
+        pages.put(7);
+        pages.change(0, 8);
+        pages.take(1);
+        Expect.same("three", 3, pages.count(12));
+        Expect.same("undo of take", 2, pages.undo());
+        Expect.same("8 is seen", 1, pages.slot(1, 3));
+        Expect.same("undo of change", 1, pages.undo());
+        Expect.same("7 is seen", 1, pages.slot(0, 3));
+        Expect.same("8 is away", -1, pages.slot(1, 0));
+        Expect.same("undo of put", 0, pages.undo());
+        Expect.same("7 is away", -1, pages.slot(0, 0));
     }
 
     private static void eachUndoableCallIsSaved() {

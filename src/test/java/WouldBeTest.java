@@ -40,6 +40,12 @@ public final class WouldBeTest {
         Expect.same("neither alone holds back", -1, pages.holder());
         pages.open(0);
         Expect.same("asker 1 does now", 1, pages.holder());
+        pages.open(1);
+        pages.open(0);
+        pages.take(1);
+        Expect.same("both at the same change", -1, pages.holder());
+        pages.open(1);
+        Expect.same("asker 0 is the lowest", 0, pages.holder());
         SeenPages other = new SeenPages();
         other.put(1);
         other.open(2);
