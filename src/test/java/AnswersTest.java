@@ -15,10 +15,10 @@ public final class AnswersTest {
     /** 3 at the places 0, 1 (went), 4 and 5 (came late), 8; asker 0 at 5, asker 1 at the clock. */
     private static SeenPages mixed() {
         SeenPages pages = new SeenPages();
-        Expect.putAll(pages, 3, 3, 7, 7, 3);
+        Made.put(pages, 3, 3, 7, 7, 3);
         pages.open(0);
         pages.take(1);
-        Expect.putAll(pages, 3, 7, 7, 3);
+        Made.put(pages, 3, 7, 7, 3);
         pages.open(1);
         return pages;
     }
@@ -96,7 +96,7 @@ public final class AnswersTest {
 
     private static void oldSnapshotsDoNotTrustMarks() {
         SeenPages pages = new SeenPages();
-        Expect.putAll(pages, 1, 1, 1, 1);
+        Made.put(pages, 1, 1, 1, 1);
         pages.sweep(0);
         pages.put(1);
         pages.sweep(1);

@@ -16,7 +16,7 @@ public final class AskersTest {
     private static void openGivesTheClock() {
         SeenPages pages = new SeenPages();
         Expect.same("open at 0", 0, pages.open(0));
-        Expect.putAll(pages, 1, 2);
+        Made.put(pages, 1, 2);
         Expect.same("open at 2", 2, pages.open(3));
         Expect.same("open anew", 2, pages.open(0));
         Expect.same("snapshot", 2, pages.asker(0, 0));
@@ -74,7 +74,7 @@ public final class AskersTest {
 
     private static void sweepTakesOutWhatNobodySees() {
         SeenPages pages = new SeenPages();
-        Expect.putAll(pages, 1, 2, 3);
+        Made.put(pages, 1, 2, 3);
         pages.take(0);
         pages.open(0);
         pages.take(1);
@@ -123,7 +123,7 @@ public final class AskersTest {
     }
 
     private static void sweepAllSweepsEachPage() {
-        SeenPages pages = Expect.full();
+        SeenPages pages = Made.full();
         pages.take(0);
         pages.take(23);
         pages.open(2);

@@ -46,7 +46,7 @@ public final class ChangesTest {
     }
 
     private static void putRefuses() {
-        SeenPages pages = Expect.full();
+        SeenPages pages = Made.full();
         long before = pages.digest();
         Expect.throwsState("put into a full table", () -> pages.put(0));
         Expect.throwsArgument("value before state", () -> pages.put(10));
@@ -57,7 +57,7 @@ public final class ChangesTest {
     }
 
     private static void takeMarksTheVersionAsGone() {
-        SeenPages pages = Expect.full();
+        SeenPages pages = Made.full();
         Expect.same("take(23)", 3, pages.take(23));
         Expect.same("went", 25, pages.slot(23, 2));
         Expect.same("value stays", 3, pages.slot(23, 0));
@@ -82,7 +82,7 @@ public final class ChangesTest {
 
     private static void changeMakesOneGoAndOneCome() {
         SeenPages pages = new SeenPages();
-        Expect.putAll(pages, 1, 2, 3, 4);
+        Made.put(pages, 1, 2, 3, 4);
         Expect.same("change(1, 9)", 4, pages.change(1, 9));
         Expect.same("one change", 5, pages.count(0));
         Expect.same("old value", 2, pages.slot(1, 0));
@@ -94,7 +94,7 @@ public final class ChangesTest {
     }
 
     private static void changeRefuses() {
-        SeenPages pages = Expect.full();
+        SeenPages pages = Made.full();
         long before = pages.digest();
         Expect.throwsBounds("place first", () -> pages.change(24, 10));
         Expect.throwsBounds("change(-1, 0)", () -> pages.change(-1, 0));
@@ -118,7 +118,7 @@ public final class ChangesTest {
         pages.put(1);
         Expect.same("put clears", 0, pages.page(0, 0));
         Expect.same("its own page's alone", 5, pages.count(5));
-        Expect.putAll(pages, 2, 3, 4);
+        Made.put(pages, 2, 3, 4);
         pages.sweepAll();
         pages.take(3);
         Expect.same("take clears", 0, pages.page(0, 0));

@@ -15,7 +15,9 @@ public final class FaceTest {
     private static final String BOUNDS = "IndexOutOfBoundsException";
     private static final String ARGUMENT = "IllegalArgumentException";
     private static final String STATE = "IllegalStateException";
-    private static final Set<String> CONSTANTS = Set.of("int", "long", "boolean", "char", "String");
+    private static final Set<String> CONSTANTS =
+        Set.of("int", "long", "boolean", "char", "String", "int[]", "long[]", "char[]", "byte[]");
+    private static final String LIBRARY = "(Arrays|ArrayList|List|Iterator|NoSuchElementException)";
     private static final Path SOURCE = Path.of("src/main/java/SeenPages.java");
 
     public static void main(String[] args) throws IOException {
@@ -78,11 +80,7 @@ public final class FaceTest {
         hidden.retainAll(open);
         Expect.note("private methods with a public one's name", "[]", hidden.toString());
         for (Field field : SeenPages.class.getDeclaredFields()) {
-            int signs = field.getModifiers();
-            boolean fine = Modifier.isPrivate(signs) && Modifier.isFinal(signs) || field.getName().equals("NONE");
-            Expect.same("field " + field.getName() + " is private and final", 1, fine ? 1 : 0);
-            boolean kept = !Modifier.isStatic(signs) || CONSTANTS.contains(field.getType().getSimpleName());
-            Expect.same("constant " + field.getName() + " has a type of rule 5", 1, kept ? 1 : 0);
+            theField(field.getName(), field);
         }
         Expect.same("constructors", 1, SeenPages.class.getDeclaredConstructors().length);
         for (Constructor<?> constructor : SeenPages.class.getDeclaredConstructors()) {
@@ -94,10 +92,21 @@ public final class FaceTest {
         Expect.note("class", "public final", Modifier.toString(SeenPages.class.getModifiers()));
     }
 
+    private static void theField(String name, Field field) {
+        int signs = field.getModifiers();
+        if (name.equals("NONE")) {
+            Expect.note("NONE", "public static final", Modifier.toString(signs));
+            return;
+        }
+        Expect.same("field " + name + " is private", 1, Modifier.isPrivate(signs) ? 1 : 0);
+        boolean kept = Modifier.isFinal(signs) && CONSTANTS.contains(field.getType().getSimpleName());
+        Expect.same("constant " + name + " is final, of a type of rule 5", 1, kept || !Modifier.isStatic(signs) ? 1 : 0);
+    }
+
     private static void theText(String source) {
         String code = source.replaceAll("(?s)/\\*.*?\\*/", "").replaceAll("//[^\n]*", "");
-        for (String word : new String[] {"try", "catch", "finally", "synchronized", "assert", "package", "Object",
-            "Double", "Float", "System\\.(?!arraycopy)\\w+", "\\w+Exact", "(?!java\\.util\\.Arrays;)java\\.\\S+", "static \\{"}) {
+        for (String word : new String[] {"finally", "synchronized", "assert", "package", "Object", "Double", "Float",
+            "System\\.(?!arraycopy)\\w+", "\\w+Exact", "(?!java\\.util\\." + LIBRARY + ";)java\\.\\S+", "static \\{"}) {
             Expect.same("uses of " + word, 0, Pattern.compile("\\b" + word).matcher(code).results().count());
         }
         Expect.same("lambdas and references", 0, Pattern.compile("->|::").matcher(code).results().count());

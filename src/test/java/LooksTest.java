@@ -15,7 +15,7 @@ public final class LooksTest {
     /** Clock 8; 5 went by 6, 6 went by 8; asker 2 at 7; page 3 is marked by 5. */
     private static SeenPages lived() {
         SeenPages pages = new SeenPages();
-        Expect.putAll(pages, 5, 6, 7, 8, 9);
+        Made.put(pages, 5, 6, 7, 8, 9);
         pages.sweep(3);
         pages.take(0);
         pages.put(5);
@@ -56,7 +56,7 @@ public final class LooksTest {
         numbers("page 5", new int[] {0, 0, 0, 0, -1}, what -> pages.page(5, what));
         pages.close(2);
         Expect.same("without the asker", 2, pages.page(0, 3));
-        SeenPages full = Expect.full();
+        SeenPages full = Made.full();
         full.take(23);
         full.take(20);
         numbers("page 5", new int[] {0, 4, 2, 2, -1}, what -> full.page(5, what));

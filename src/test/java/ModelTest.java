@@ -1,39 +1,41 @@
-/** All promises in long mixed runs: each answer against the model's, all looks behind each call. */
+/**
+ * All promises in long mixed runs: each answer against the model's, and all that can be seen behind
+ * each step. An object is used for 512 calls, and no more: the document promises nothing behind them.
+ */
 public final class ModelTest {
+    private static final int RUNS = 1200;
+    private static final int MOST_CALLS = 512;
     private static final String[] PARTS = {"+", "-", "~", "=", ",", "0", "1", "2", "3", "4", "9", "x"};
 
     private long seed;
+    private final int mood;
     private final SeenPages pages = new SeenPages();
     private final PlainModel model = new PlainModel();
     private final StringBuilder story = new StringBuilder();
     private boolean right = true;
+    private int calls;
 
     private ModelTest(long seed) {
         this.seed = seed;
+        mood = (int) (seed % 4);
     }
 
     public static void main(String[] args) {
-        int calls = 0;
-        for (int run = 1; run <= 400; run++) {
-            calls += new ModelTest(run).run(run % 4);
+        for (int run = 1; run <= RUNS; run++) {
+            new ModelTest(run).run();
         }
-        System.out.println(calls + " calls");
         Expect.end();
     }
 
-    private int run(int mood) {
-        int calls = 0;
-        while (calls < 512 && right) {
-            calls += step(mood);
-            if (calls % 3 == 0) {
-                looks();
-            }
+    private void run() {
+        while (calls < MOST_CALLS && right) {
+            step();
+            look();
+            both("digest", model::digest, pages::digest);
         }
-        looks();
         if (!right) {
             System.out.println(story);
         }
-        return calls;
     }
 
     private int below(int end) {
@@ -47,6 +49,10 @@ public final class ModelTest {
     }
 
     private void both(String call, Expect.Call due, Expect.Call got) {
+        if (calls == MOST_CALLS) {
+            return;
+        }
+        calls++;
         String wanted = Expect.told(due);
         String told = Expect.told(got);
         story.append(call).append(" -> ").append(wanted).append('\n');
@@ -54,66 +60,70 @@ public final class ModelTest {
         Expect.note(call, wanted, told);
     }
 
-    private int step(int mood) {
-        int place = number(24);
+    /** Few values in most moods, so that pages have several of one; all ten in the mood 0. */
+    private int value() {
         int value = number(mood == 0 ? 10 : 3);
-        value = value == 3 && mood != 0 ? 10 : value;
+        return value == 3 && mood != 0 ? 10 : value;
+    }
+
+    private void step() {
+        int place = number(24);
+        int value = value();
         int few = number(4);
         int page = number(6);
-        int given = value;
         switch (below(mood == 1 ? 11 : 15)) {
             case 0, 1, 2:
-                both("put " + given, () -> model.put(given), () -> pages.put(given));
-                return 1;
+                both("put " + value, () -> model.put(value), () -> pages.put(value));
+                break;
             case 3:
                 both("take " + place, () -> model.take(place), () -> pages.take(place));
-                return 1;
+                break;
             case 4, 5:
-                both("change " + place + " " + given, () -> model.change(place, given), () -> pages.change(place, given));
-                return 1;
+                both("change " + place + " " + value, () -> model.change(place, value), () -> pages.change(place, value));
+                break;
             case 6:
                 both("open " + few, () -> model.open(few), () -> pages.open(few));
-                return 1;
+                break;
             case 7:
                 both("close " + few, () -> model.close(few), () -> pages.close(few));
-                return 1;
+                break;
             case 8:
                 both("sweep " + page, () -> model.sweep(page), () -> pages.sweep(page));
-                return 1;
-            case 9:
-                return ask(few, given);
-            case 10:
-                return mood == 2 ? ask(few, given) : sweepAll();
-            case 11:
-                return undo(mood);
+                break;
             default:
-                return mood == 3 ? ask(few, given) : text();
+                otherStep(few, value);
         }
     }
 
-    private int ask(int asker, int value) {
-        int way = number(3);
-        both("ask " + asker + " " + value + " " + way, () -> model.ask(asker, value, way), () -> pages.ask(asker, value, way));
-        return 1;
+    private void otherStep(int asker, int value) {
+        switch (below(6)) {
+            case 0:
+                both("sweepAll", model::sweepAll, pages::sweepAll);
+                break;
+            case 1:
+                undo();
+                break;
+            case 2, 3:
+                text();
+                break;
+            default:
+                int way = number(3);
+                both("ask " + asker + " " + value + " " + way,
+                    () -> model.ask(asker, value, way), () -> pages.ask(asker, value, way));
+        }
     }
 
-    private int sweepAll() {
-        both("sweepAll", () -> model.sweepAll(), () -> pages.sweepAll());
-        return 1;
-    }
-
-    private int undo(int mood) {
+    private void undo() {
         int times = 1 + below(mood == 0 ? 8 : 2);
         for (int time = 0; time < times; time++) {
-            both("undo", () -> model.undo(), () -> pages.undo());
+            both("undo", model::undo, pages::undo);
         }
-        return times;
     }
 
     /** Types some characters, mostly whole parts, and mostly plays them. */
-    private int text() {
+    private void text() {
         StringBuilder typed = new StringBuilder();
-        int parts = below(5);
+        int parts = below(mood == 2 ? 18 : 5);
         for (int part = 0; part < parts; part++) {
             typed.append(part == 0 ? "" : ",").append(part());
         }
@@ -124,14 +134,13 @@ public final class ModelTest {
             int code = typed.charAt(index);
             both("append " + code, () -> model.append(code), () -> pages.append(code));
         }
-        both("firstError", () -> model.firstError(), () -> pages.firstError());
+        both("firstError", model::firstError, pages::firstError);
         if (below(4) > 0) {
-            both("play", () -> model.play(), () -> pages.play());
+            both("play", model::play, pages::play);
         }
         if (below(3) > 0) {
-            both("clearBuffer", () -> model.clearBuffer(), () -> pages.clearBuffer());
+            both("clearBuffer", model::clearBuffer, pages::clearBuffer);
         }
-        return typed.length() + 3;
     }
 
     private String part() {
@@ -147,48 +156,59 @@ public final class ModelTest {
         }
     }
 
-    private void looks() {
-        for (int place = 0; place < 24; place++) {
-            for (int what = 0; what < 4; what++) {
-                look("slot " + place + " " + what, model.slot(place, what), pages.slot(place, what));
-            }
-        }
-        for (int page = 0; page < 6; page++) {
-            for (int what = 0; what < 5; what++) {
-                look("page " + page + " " + what, model.page(page, what), pages.page(page, what));
-            }
-        }
-        for (int asker = 0; asker < 4; asker++) {
-            for (int what = 0; what < 3; what++) {
-                look("asker " + asker + " " + what, model.asker(asker, what), pages.asker(asker, what));
-            }
-        }
-        for (int what = 0; what < 13; what++) {
-            look("count " + what, model.count(what), pages.count(what));
-        }
-        look("holder", model.holder(), pages.holder());
-        Expect.sameDouble("marked", model.marked(), pages.marked());
-        wouldBe();
-        Expect.same("digest", FaceDigest.of(pages, model.buffer()), pages.digest());
-    }
-
-    private void wouldBe() {
-        int clock = model.count(0);
-        for (int value = 0; value < 10; value++) {
-            for (int at = 0; at < 6; at++) {
-                int way = at / 2;
-                int what = at % 2;
-                int snapshot = below(3) == 0 ? clock : Math.max(0, clock - below(12));
-                look("ifAsked " + snapshot + " " + value + " " + way + " " + what,
-                    model.ifAsked(snapshot, value, way, what), pages.ifAsked(snapshot, value, way, what));
-            }
-            look("lies " + value, model.lies(value), pages.lies(value));
-            look("cheapest " + value, model.cheapest(value), pages.cheapest(value));
+    /** One look, or an answer that would be. */
+    private void look() {
+        int value = value();
+        switch (below(11)) {
+            case 0:
+                lookByTwo("slot", number(24), number(4));
+                break;
+            case 1:
+                lookByTwo("page", number(6), number(5));
+                break;
+            case 2:
+                lookByTwo("asker", number(4), number(3));
+                break;
+            case 3:
+                int what = number(13);
+                both("count " + what, () -> model.count(what), () -> pages.count(what));
+                break;
+            case 4:
+                both("lies " + value, () -> model.lies(value), () -> pages.lies(value));
+                break;
+            case 5:
+                both("cheapest " + value, () -> model.cheapest(value), () -> pages.cheapest(value));
+                break;
+            case 6:
+                both("marked", model::marked, pages::marked);
+                break;
+            case 7:
+                both("holder", model::holder, pages::holder);
+                break;
+            default:
+                wouldBe(value);
         }
     }
 
-    private void look(String what, long due, long got) {
-        right &= due == got;
-        Expect.same(what, due, got);
+    private void lookByTwo(String name, int first, int what) {
+        String call = name + " " + first + " " + what;
+        switch (name) {
+            case "slot":
+                both(call, () -> model.slot(first, what), () -> pages.slot(first, what));
+                break;
+            case "page":
+                both(call, () -> model.page(first, what), () -> pages.page(first, what));
+                break;
+            default:
+                both(call, () -> model.asker(first, what), () -> pages.asker(first, what));
+        }
+    }
+
+    private void wouldBe(int value) {
+        int snapshot = below(5) == 0 ? number(model.count(0) + 1) : Math.max(0, model.count(0) - below(12));
+        int way = number(3);
+        int what = number(2);
+        both("ifAsked " + snapshot + " " + value + " " + way + " " + what,
+            () -> model.ifAsked(snapshot, value, way, what), () -> pages.ifAsked(snapshot, value, way, what));
     }
 }

@@ -4,6 +4,7 @@ import java.util.Deque;
 import java.util.List;
 import java.util.TreeMap;
 import java.util.regex.Pattern;
+import java.util.stream.IntStream;
 
 /**
  * The document once more, as plainly as the Java library allows, and with nothing of the class's
@@ -391,7 +392,24 @@ final class PlainModel {
         return now.marks.size() / 6.0;
     }
 
-    String buffer() {
-        return buffer;
+    long digest() {
+        List<Long> told = new ArrayList<>();
+        IntStream.rangeClosed(0, 12).forEach(what -> told.add((long) count(what)));
+        IntStream.range(0, 96).forEach(at -> told.add((long) slot(at / 4, at % 4)));
+        IntStream.range(0, 30).forEach(at -> told.add((long) page(at / 5, at % 5)));
+        IntStream.range(0, 12).forEach(at -> told.add((long) asker(at / 3, at % 3)));
+        for (int value = 0; value < 10; value++) {
+            for (int way = 0; way < 3; way++) {
+                told.add((long) answer(now.clock, value, way));
+                told.add((long) cost(now.clock, value, way));
+            }
+            told.add((long) lies(value));
+            told.add((long) cheapest(value));
+        }
+        told.add((long) holder());
+        told.add(Double.doubleToLongBits(marked()));
+        told.add((long) buffer.length());
+        buffer.chars().forEach(code -> told.add((long) code));
+        return told.stream().reduce(3467L, (hash, number) -> 31 * hash + number);
     }
 }

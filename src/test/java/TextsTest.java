@@ -38,10 +38,10 @@ public final class TextsTest {
     private static void clearBufferTellsTheLength() {
         SeenPages pages = new SeenPages();
         Expect.same("nothing", 0, pages.clearBuffer());
-        Expect.type(pages, "+1,x");
+        Made.type(pages, "+1,x");
         Expect.same("four", 4, pages.clearBuffer());
         Expect.same("nothing again", 0, pages.clearBuffer());
-        Expect.type(pages, "+1");
+        Made.type(pages, "+1");
         Expect.same("nothing is left over", 2, pages.firstError());
     }
 
@@ -54,7 +54,7 @@ public final class TextsTest {
         errorAt(3, "+1,,", "+1,=", "-123", "-23=", "23==", "0=12", "0=1=", "+1,a+");
         errorAt(4, "+1,24", "12=10", "+1,-,");
         SeenPages pages = new SeenPages();
-        Expect.type(pages, "+1,+2,+3,+4,+5,+6,+7,+8,+9,+0,+1,+2,+3,+4,+5,+6,+7,+8,+9,+0,");
+        Made.type(pages, "+1,+2,+3,+4,+5,+6,+7,+8,+9,+0,+1,+2,+3,+4,+5,+6,+7,+8,+9,+0,");
         Expect.same("sixty that could go on", 60, pages.firstError());
         Expect.same("nothing is changed", 60, pages.clearBuffer());
     }
@@ -68,7 +68,7 @@ public final class TextsTest {
     private static void errorAt(int due, String... texts) {
         for (String text : texts) {
             SeenPages pages = new SeenPages();
-            Expect.type(pages, text);
+            Made.type(pages, text);
             Expect.same("firstError of " + text, due, pages.firstError());
             Expect.same("the buffer stands", text.length(), pages.clearBuffer());
         }
@@ -76,7 +76,7 @@ public final class TextsTest {
 
     private static void playMakesTheChanges() {
         SeenPages pages = new SeenPages();
-        Expect.type(pages, "+7,+8,-0,1=3,~0,~5,+9");
+        Made.type(pages, "+7,+8,-0,1=3,~0,~5,+9");
         Expect.same("all seven", 7, pages.play());
         Expect.same("the buffer is cleared", 0, pages.clearBuffer());
         Expect.same("put 9 where 7 went", 9, pages.slot(0, 0));
@@ -86,8 +86,8 @@ public final class TextsTest {
         Expect.same("page 5 is marked by 4", 4, pages.page(5, 4));
         Expect.same("put took page 0's mark", 0, pages.page(0, 0));
         Expect.same("clock", 5, pages.count(0));
-        SeenPages last = Expect.full();
-        Expect.type(last, "-23,-19,~4,~5,10=6");
+        SeenPages last = Made.full();
+        Made.type(last, "-23,-19,~4,~5,10=6");
         Expect.same("places with two digits", 5, last.play());
         Expect.same("place 23 went, and was swept", -1, last.slot(23, 0));
         Expect.same("the lowest empty slot", 6, last.slot(19, 0));
@@ -96,18 +96,18 @@ public final class TextsTest {
 
     private static void playStopsAtTheFirstImpossibleOne() {
         SeenPages pages = new SeenPages();
-        Expect.type(pages, "+1,-0,-0,+2");
+        Made.type(pages, "+1,-0,-0,+2");
         Expect.same("up to the second -0", 2, pages.play());
         Expect.same("no +2", 1, pages.count(2));
-        Expect.type(pages, "0=1,+1");
+        Made.type(pages, "0=1,+1");
         Expect.same("what went", 0, pages.play());
-        Expect.type(pages, "5=1,+1");
+        Made.type(pages, "5=1,+1");
         Expect.same("an empty slot", 0, pages.play());
         Expect.same("the buffer is cleared", 0, pages.clearBuffer());
-        SeenPages full = Expect.full();
-        Expect.type(full, "+1");
+        SeenPages full = Made.full();
+        Made.type(full, "+1");
         Expect.same("no empty slot to put", 0, full.play());
-        Expect.type(full, "~0,0=1");
+        Made.type(full, "~0,0=1");
         Expect.same("nor to change", 1, full.play());
         Expect.same("clock", 24, full.count(0));
     }
@@ -116,7 +116,7 @@ public final class TextsTest {
         SeenPages pages = new SeenPages();
         Expect.throwsArgument("an empty buffer", () -> pages.play());
         for (String text : new String[] {"+", "-", "~", "0", "0=", "+1,", "+1,-", "x", "+1x", "24=1", "-24", "~6", "+1,,+1"}) {
-            Expect.type(pages, text);
+            Made.type(pages, text);
             Expect.throwsArgument("play of " + text, () -> pages.play());
             Expect.same("the buffer stands", text.length(), pages.clearBuffer());
         }
@@ -128,13 +128,13 @@ public final class TextsTest {
         SeenPages pages = new SeenPages();
         pages.put(4);
         long before = pages.digest();
-        Expect.type(pages, "+1,0=2,~0");
+        Made.type(pages, "+1,0=2,~0");
         pages.play();
         Expect.same("one more is saved", 2, pages.count(12));
-        Expect.type(pages, "-9");
+        Made.type(pages, "-9");
         Expect.same("none is made", 0, pages.play());
         Expect.same("that is saved too", 3, pages.count(12));
-        Expect.type(pages, "~");
+        Made.type(pages, "~");
         pages.undo();
         pages.undo();
         Expect.same("undo leaves the buffer", 1, pages.clearBuffer());

@@ -94,7 +94,7 @@ public final class UndoTest {
 
     private static void allIsRestored() {
         SeenPages pages = new SeenPages();
-        Expect.putAll(pages, 1, 2, 3, 1, 2, 3, 1);
+        Made.put(pages, 1, 2, 3, 1, 2, 3, 1);
         pages.open(1);
         pages.take(2);
         pages.sweepAll();
@@ -122,7 +122,7 @@ public final class UndoTest {
 
     private static void whatComesBehindAnUndo() {
         SeenPages pages = new SeenPages();
-        Expect.putAll(pages, 1, 2, 3, 4, 5, 6, 7, 8);
+        Made.put(pages, 1, 2, 3, 4, 5, 6, 7, 8);
         pages.undo();
         pages.undo();
         Expect.same("clock", 6, pages.count(0));

@@ -12,7 +12,7 @@ public final class WouldBeTest {
 
     private static void holderHoldsBackMost() {
         SeenPages pages = new SeenPages();
-        Expect.putAll(pages, 1, 2, 3, 4);
+        Made.put(pages, 1, 2, 3, 4);
         Expect.same("no askers", -1, pages.holder());
         pages.open(3);
         Expect.same("nothing went", -1, pages.holder());
@@ -33,7 +33,7 @@ public final class WouldBeTest {
 
     private static void twoHoldTogether() {
         SeenPages pages = new SeenPages();
-        Expect.putAll(pages, 1, 2, 3);
+        Made.put(pages, 1, 2, 3);
         pages.open(0);
         pages.open(1);
         pages.take(0);
@@ -92,19 +92,20 @@ public final class WouldBeTest {
     }
 
     private static void digestFollowsItsList() {
-        SeenPages pages = Expect.full();
         for (int marks = 0; marks <= 6; marks++) {
-            Expect.same("digest", FaceDigest.of(pages, ""), pages.digest());
-            if (marks < 6) {
-                pages.sweep(marks);
+            SeenPages pages = Made.full();
+            for (int page = 0; page < marks; page++) {
+                pages.sweep(page);
             }
+            Expect.same("digest", FaceDigest.of(pages, ""), pages.digest());
+            Expect.same("twice the same", pages.digest(), pages.digest());
         }
+        SeenPages pages = Made.fullAndMarked();
         pages.open(1);
         pages.take(4);
         pages.ask(1, 4, 2);
-        Expect.type(pages, "~3,zz");
+        Made.type(pages, "~3,zz");
         Expect.same("digest", FaceDigest.of(pages, "~3,zz"), pages.digest());
-        Expect.same("twice the same", pages.digest(), pages.digest());
     }
 
     private static void digestSeesTheBuffer() {

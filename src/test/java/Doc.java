@@ -1,0 +1,83 @@
+import java.io.IOException;
+import java.nio.file.Files;
+import java.nio.file.Path;
+import java.util.ArrayList;
+import java.util.LinkedHashMap;
+import java.util.List;
+import java.util.Map;
+
+/**
+ * The sentences of ../shared/DOC.md, section by section. A test quotes the sentence that it is for;
+ * at the end each sentence of the terms and of the promises has been quoted.
+ */
+final class Doc {
+    private static final Path FILE = Path.of("../shared/DOC.md");
+    private static final List<String> WITHOUT_PROMISES =
+        List.of("SeenPages", "What it is", "The public face", "Not promised");
+
+    /** Each section's text, less what was quoted of it. */
+    private final Map<String, String> unquoted = new LinkedHashMap<>();
+    private final boolean found;
+
+    Doc() throws IOException {
+        found = Files.isReadable(FILE);
+        if (found) {
+            read(Files.readAllLines(FILE));
+        } else {
+            System.out.println("no " + FILE + ": the quotes are not compared with it");
+        }
+    }
+
+    private void read(List<String> lines) {
+        String section = "";
+        boolean code = false;
+        for (String line : lines) {
+            if (line.startsWith("```")) {
+                code = !code;
+            } else if (line.startsWith("#")) {
+                section = line.replaceFirst("#+ ", "");
+            } else if (!code) {
+                unquoted.merge(section, line + "\n", String::concat);
+            }
+        }
+    }
+
+    Section section(String name) {
+        return new Section(name);
+    }
+
+    /** Tells of each sentence that no test is for. */
+    void end() {
+        List<String> left = new ArrayList<>();
+        unquoted.forEach((section, text) -> {
+            if (!WITHOUT_PROMISES.contains(section) && text.matches("(?s).*\\w.*")) {
+                left.add(section + ": " + text.strip());
+            }
+        });
+        Expect.about("sentences without a test");
+        Expect.note("of the document", "[]", left.toString());
+    }
+
+    /** A section, by its heading. */
+    final class Section {
+        private final String name;
+
+        private Section(String name) {
+            this.name = name;
+        }
+
+        /** A test for a sentence of the section, which it quotes word by word. */
+        void says(String sentence, Runnable test) {
+            Expect.about(name + ": " + sentence);
+            if (found) {
+                String text = unquoted.getOrDefault(name, "");
+                int at = text.indexOf(sentence);
+                Expect.note("the document", "says so", at < 0 ? "does not say so (again)" : "says so");
+                unquoted.put(name, at < 0 ? text : text.substring(0, at) + text.substring(at + sentence.length()));
+            }
+            int before = Expect.checked();
+            test.run();
+            Expect.note("the test", "looks at something", Expect.checked() > before ? "looks at something" : "is empty");
+        }
+    }
+}
