@@ -71,10 +71,7 @@ final class AnswerSentences {
     }
 
     private static void byMarks() {
-        SeenPages pages = new SeenPages();
-        for (int put = 0; put < 24; put++) {
-            pages.put(7);
-        }
+        SeenPages pages = Made.fullOf(7);
         for (int marks = 0; marks <= 6; marks++) {
             Expect.same("cost with marks: " + marks, 6 - marks, pages.ifAsked(24, 7, 2, 1));
             Expect.same("answer with marks: " + marks, 24, pages.ifAsked(24, 7, 2, 0));
@@ -113,6 +110,13 @@ final class AnswerSentences {
         Expect.numbers("by the greatest of those marked now: snapshot", t -> pages.ifAsked(t, 1, 2, 1),
             2, 2, 2, 2, 2, 2, 2, 2, 2, 1, 1, 1);
         Expect.numbers("answers: snapshot", t -> pages.ifAsked(t, 1, 2, 0), 0, 1, 1, 1, 1, 1, 1, 1, 1, 2, 2, 2);
+        for (int page = 0; page < 6; page++) {
+            SeenPages one = Made.fullOf(1);
+            one.sweep(page);
+            Expect.same("page " + page + " alone is marked, its horizon: cost", 5, one.ifAsked(24, 1, 2, 1));
+            Expect.same("one less: cost", 6, one.ifAsked(23, 1, 2, 1));
+            Expect.same("one less: answer", 23, one.ifAsked(23, 1, 2, 0));
+        }
         SeenPages without = new SeenPages();
         Made.put(without, 1, 1, 1, 1, 1);
         Expect.numbers("no marks: any snapshot: cost", t -> without.ifAsked(t, 1, 2, 1), 2, 2, 2, 2, 2, 2);
@@ -120,7 +124,7 @@ final class AnswerSentences {
     }
 
     private static void ask(Doc.Section it) {
-        it.says("`int ask(int asker, int value, int way) throws IndexOutOfBoundsException, IllegalArgumentException, "
+        it.saysOfCall("`int ask(int asker, int value, int way) throws IndexOutOfBoundsException, IllegalArgumentException, "
             + "IllegalStateException`: Asks how many versions with a value an asker sees.", () -> {
             SeenPages pages = Made.lived();
             for (int way = 0; way < 3; way++) {
@@ -221,7 +225,7 @@ final class AnswerSentences {
     }
 
     private static void ifAsked(Doc.Section it) {
-        it.says("`int ifAsked(int snapshot, int value, int way, int what) throws IllegalArgumentException`: Tells what an "
+        it.saysOfCall("`int ifAsked(int snapshot, int value, int way, int what) throws IllegalArgumentException`: Tells what an "
             + "answer would be, or cost, for any snapshot.", () -> {
             SeenPages pages = Made.lived();
             long before = pages.digest();
@@ -255,7 +259,7 @@ final class AnswerSentences {
     }
 
     private static void lies(Doc.Section it) {
-        it.says("`int lies(int value) throws IllegalArgumentException`: Tells how much an index alone would tell wrongly, "
+        it.saysOfCall("`int lies(int value) throws IllegalArgumentException`: Tells how much an index alone would tell wrongly, "
             + "without the table and without marks: the slots that the index has with a value, less those versions that "
             + "the clock sees.", () -> {
             SeenPages pages = Made.lived();
@@ -270,10 +274,7 @@ final class AnswerSentences {
         it.says("Returns the difference.", () -> {
             Expect.same("no slots", 0, new SeenPages().lies(0));
             Expect.same("all are seen", 0, Made.full().lies(9));
-            SeenPages pages = new SeenPages();
-            for (int put = 0; put < 24; put++) {
-                pages.put(9);
-            }
+            SeenPages pages = Made.fullOf(9);
             for (int place = 0; place < 24; place++) {
                 pages.take(place);
             }
@@ -293,7 +294,7 @@ final class AnswerSentences {
     }
 
     private static void cheapest(Doc.Section it) {
-        it.says("`int cheapest(int value) throws IllegalArgumentException`: Finds the cheapest way for the clock.", () -> {
+        it.saysOfCall("`int cheapest(int value) throws IllegalArgumentException`: Finds the cheapest way for the clock.", () -> {
             SeenPages pages = Made.fullAndMarked();
             long before = pages.digest();
             Expect.same("by marks at no cost, by the table 3, by a scan 6", 2, pages.cheapest(1));
@@ -304,10 +305,7 @@ final class AnswerSentences {
         it.says("- `value`: 0 to 9", () -> Expect.takes(9, Made::lived, SeenPages::cheapest, value -> 2));
         it.says("Returns the way with the least cost, of several the greatest number.", () -> {
             Expect.same("1 and 2 cost nothing", 2, new SeenPages().cheapest(0));
-            SeenPages pages = new SeenPages();
-            for (int put = 0; put < 24; put++) {
-                pages.put(1);
-            }
+            SeenPages pages = Made.fullOf(1);
             Expect.same("all three cost 6", 2, pages.cheapest(1));
             Expect.same("1 and 2 cost nothing", 2, pages.cheapest(2));
             pages.sweep(0);

@@ -144,6 +144,11 @@ final class AskerSentences {
         pages.sweep(5);
         Expect.same("marked ahead, by the new horizon now", 4, pages.page(5, 4));
         Expect.same("no other page is marked", 1, pages.count(5));
+        SeenPages held = Made.fullBut(23);
+        held.open(3);
+        held.put(1);
+        Expect.same("others are marked, by less than the clock", 5, held.sweepAll());
+        Expect.numbers("horizon of page", page -> held.page(page, 4), 25, 25, 25, 25, 25, -1);
         SeenPages first = new SeenPages();
         first.sweep(2);
         Expect.numbers("the horizon 0 marks, too", what -> first.page(2, what), 1, 0, 0, 0, 0);
@@ -156,7 +161,7 @@ final class AskerSentences {
     }
 
     private static void open(Doc.Section it) {
-        it.says("`int open(int asker) throws IndexOutOfBoundsException`: Opens an asker, or opens it anew.", () -> {
+        it.saysOfCall("`int open(int asker) throws IndexOutOfBoundsException`: Opens an asker, or opens it anew.", () -> {
             SeenPages pages = Made.few();
             pages.open(0);
             Expect.numbers("opened", what -> pages.asker(0, what), 3, 1, 0);
@@ -188,7 +193,7 @@ final class AskerSentences {
     }
 
     private static void close(Doc.Section it) {
-        it.says("`int close(int asker) throws IndexOutOfBoundsException, IllegalStateException`: Closes an asker.", () -> {
+        it.saysOfCall("`int close(int asker) throws IndexOutOfBoundsException, IllegalStateException`: Closes an asker.", () -> {
             SeenPages pages = Made.lived();
             pages.close(2);
             Expect.numbers("closed", what -> pages.asker(2, what), -1, -1, 1);
@@ -231,7 +236,7 @@ final class AskerSentences {
     }
 
     private static void sweep(Doc.Section it) {
-        it.says("`int sweep(int page) throws IndexOutOfBoundsException`: Sweeps a page.", () -> {
+        it.saysOfCall("`int sweep(int page) throws IndexOutOfBoundsException`: Sweeps a page.", () -> {
             SeenPages pages = Made.full();
             pages.take(0);
             pages.take(23);
@@ -246,6 +251,7 @@ final class AskerSentences {
             Expect.undoable("sweep", Made::few, pages -> pages.sweep(0));
             Expect.undoable("a page without versions", Made::few, pages -> pages.sweep(5));
             Expect.undoable("that changes nothing", AskerSentences::sweptBefore, pages -> pages.sweep(0));
+            Expect.undoable("the last page", AskerSentences::aTakenOneEach, pages -> pages.sweep(5));
             Expect.undoable("with six states", Made::lived, pages -> pages.sweep(0));
         });
         it.says("- `page`: 0 to 5", () -> Expect.takes(5, AskerSentences::aTakenOneEach, SeenPages::sweep, page -> 1));
@@ -278,7 +284,7 @@ final class AskerSentences {
     }
 
     private static void sweepAll(Doc.Section it) {
-        it.says("`int sweepAll()`: Sweeps all pages.", () -> {
+        it.saysOfCall("`int sweepAll()`: Sweeps all pages.", () -> {
             SeenPages pages = aTakenOneEach();
             pages.sweepAll();
             Expect.numbers("versions of page", page -> pages.page(page, 1), 3, 3, 3, 3, 3, 3);
@@ -288,6 +294,7 @@ final class AskerSentences {
         it.says("Undoable, as one call.", () -> {
             Expect.undoable("sweepAll", Made::few, SeenPages::sweepAll);
             Expect.undoable("that changes nothing", AskerSentences::allSweptBefore, SeenPages::sweepAll);
+            Expect.undoable("of a full table", AskerSentences::aTakenOneEach, SeenPages::sweepAll);
             Expect.undoable("with six states", Made::lived, SeenPages::sweepAll);
         });
         it.says("Returns how many pages are marked then.", () -> {

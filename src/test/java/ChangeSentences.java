@@ -12,7 +12,7 @@ final class ChangeSentences {
     }
 
     private static void newObject(Doc.Section it) {
-        it.says("`SeenPages()`: Creates an empty table without marks and snapshots, with the clock 0, and an empty buffer.",
+        it.saysOfCall("`SeenPages()`: Creates an empty table without marks and snapshots, with the clock 0, and an empty buffer.",
             () -> {
                 SeenPages used = Made.lived();
                 SeenPages pages = new SeenPages();
@@ -30,7 +30,7 @@ final class ChangeSentences {
     }
 
     private static void put(Doc.Section it) {
-        it.says("`int put(int value) throws IllegalArgumentException, IllegalStateException`: Puts a value.", () -> {
+        it.saysOfCall("`int put(int value) throws IllegalArgumentException, IllegalStateException`: Puts a value.", () -> {
             SeenPages pages = Made.lived();
             pages.put(4);
             Expect.numbers("the version", what -> pages.slot(7, what), 4, 9, 0, 1);
@@ -39,6 +39,7 @@ final class ChangeSentences {
         it.says("Undoable.", () -> {
             Expect.undoable("the first", Made::empty, pages -> pages.put(0));
             Expect.undoable("it clears a mark", ChangeSentences::emptyAndMarked, pages -> pages.put(0));
+            Expect.undoable("into the last slot", () -> Made.fullBut(23), pages -> pages.put(0));
             Expect.undoable("with six states", Made::lived, pages -> pages.put(9));
         });
         it.says("- `value`: 0 to 9", () -> Expect.takes(9, Made::few,
@@ -77,7 +78,7 @@ final class ChangeSentences {
     }
 
     private static void take(Doc.Section it) {
-        it.says("`int take(int place) throws IndexOutOfBoundsException, IllegalStateException`: Takes a version away.", () -> {
+        it.saysOfCall("`int take(int place) throws IndexOutOfBoundsException, IllegalStateException`: Takes a version away.", () -> {
             SeenPages pages = Made.lived();
             pages.take(6);
             Expect.numbers("it went", what -> pages.slot(6, what), 3, 8, 9, 0);
@@ -111,7 +112,7 @@ final class ChangeSentences {
     }
 
     private static void change(Doc.Section it) {
-        it.says("`int change(int place, int value) throws IndexOutOfBoundsException, IllegalArgumentException, "
+        it.saysOfCall("`int change(int place, int value) throws IndexOutOfBoundsException, IllegalArgumentException, "
             + "IllegalStateException`: Changes a version.", () -> {
             SeenPages pages = Made.lived();
             pages.change(6, 1);
@@ -124,6 +125,7 @@ final class ChangeSentences {
             Expect.undoable("change", Made::few, pages -> pages.change(1, 5));
             Expect.undoable("with six states", Made::lived, pages -> pages.change(2, 5));
             Expect.undoable("it clears two marks", () -> Made.fullBut(0), pages -> pages.change(23, 5));
+            Expect.undoable("into the last slot", () -> Made.fullBut(23), pages -> pages.change(0, 5));
         });
         it.says("- `place`: 0 to 23", () -> Expect.takes(23, () -> Made.fullBut(11),
             (pages, place) -> Expect.told(() -> pages.change(place, 5)), place -> place == 11 ? Expect.STATE : 11));

@@ -76,8 +76,22 @@ final class Doc {
                 unquoted.put(name, at < 0 ? text : text.substring(0, at) + text.substring(at + sentence.length()));
             }
             int before = Expect.checked();
+            Expect.note("the test", "goes to its end", Expect.told(() -> goesToItsEnd(test)));
+            Expect.note("the test", "looks at something", Expect.checked() > before + 1 ? "looks at something" : "is empty");
+        }
+
+        private String goesToItsEnd(Runnable test) {
             test.run();
-            Expect.note("the test", "looks at something", Expect.checked() > before ? "looks at something" : "is empty");
+            return "goes to its end";
+        }
+
+        /** As says, for a sentence that begins with the head of a call: the class has it, exactly so. */
+        void saysOfCall(String sentence, Runnable test) {
+            says(sentence, () -> {
+                String head = sentence.substring(1, sentence.indexOf('`', 1));
+                Expect.note("the call", Heads.nameless(head), Heads.ofClass(head));
+                test.run();
+            });
         }
     }
 }

@@ -11,7 +11,7 @@ final class LookSentences {
     }
 
     private static void slot(Doc.Section it) {
-        it.says("`int slot(int place, int what) throws IndexOutOfBoundsException, IllegalArgumentException`: Returns something "
+        it.saysOfCall("`int slot(int place, int what) throws IndexOutOfBoundsException, IllegalArgumentException`: Returns something "
             + "of a slot.", () -> looksChangeNothing(24, 4, SeenPages::slot));
         it.says("- `place`: 0 to 23", () ->
             Expect.takes(23, Made::full, (pages, place) -> pages.slot(place, 1), place -> place + 1));
@@ -54,7 +54,7 @@ final class LookSentences {
     }
 
     private static void page(Doc.Section it) {
-        it.says("`int page(int page, int what) throws IndexOutOfBoundsException, IllegalArgumentException`: Returns something "
+        it.saysOfCall("`int page(int page, int what) throws IndexOutOfBoundsException, IllegalArgumentException`: Returns something "
             + "of a page.", () -> looksChangeNothing(6, 5, SeenPages::page));
         it.says("- `page`: 0 to 5", () ->
             Expect.takes(5, LookSentences::stairs, (pages, page) -> 10 * pages.page(page, 1) + pages.page(page, 2),
@@ -108,7 +108,7 @@ final class LookSentences {
     }
 
     private static void asker(Doc.Section it) {
-        it.says("`int asker(int asker, int what) throws IndexOutOfBoundsException, IllegalArgumentException`: Returns "
+        it.saysOfCall("`int asker(int asker, int what) throws IndexOutOfBoundsException, IllegalArgumentException`: Returns "
             + "something of an asker.", () -> looksChangeNothing(4, 3, SeenPages::asker));
         it.says("- `asker`: 0 to 3", () -> Expect.takes(3, Made::lived,
             (pages, asker) -> pages.asker(asker, 0), asker -> new int[] {7, -1, 6, -1}[asker]));
@@ -146,7 +146,7 @@ final class LookSentences {
     }
 
     private static void count(Doc.Section it) {
-        it.says("`int count(int what) throws IllegalArgumentException`: Returns a number.", () ->
+        it.saysOfCall("`int count(int what) throws IllegalArgumentException`: Returns a number.", () ->
             looksChangeNothing(1, 13, (pages, none, what) -> pages.count(what)));
         it.says("- `what`: 0: the clock; 1: the horizon; 2: versions; 3: those that are seen by the clock; 4: empty slots; 5: "
             + "marked pages; 6 to 8: questions asked so far by the ways 0 to 2; 9: those by the way 2 (counted in 8, too) that "

@@ -16,6 +16,15 @@ final class Made {
         return pages;
     }
 
+    /** No slot is empty: 24 versions with the same value. */
+    static SeenPages fullOf(int value) {
+        SeenPages pages = new SeenPages();
+        for (int place = 0; place < 24; place++) {
+            pages.put(value);
+        }
+        return pages;
+    }
+
     /** All marked by the horizon 24, and no slot empty. */
     static SeenPages fullAndMarked() {
         SeenPages pages = full();

@@ -127,7 +127,7 @@ final class TextSentences {
     }
 
     private static void append(Doc.Section it) {
-        it.says("`int append(int code) throws IllegalArgumentException, IllegalStateException`: Appends a character to the "
+        it.saysOfCall("`int append(int code) throws IllegalArgumentException, IllegalStateException`: Appends a character to the "
             + "buffer.", () -> {
             SeenPages pages = Made.with("~");
             pages.append('3');
@@ -165,7 +165,7 @@ final class TextSentences {
     }
 
     private static void clearBuffer(Doc.Section it) {
-        it.says("`int clearBuffer()`: Clears the buffer.", () -> {
+        it.saysOfCall("`int clearBuffer()`: Clears the buffer.", () -> {
             SeenPages pages = Made.with("x");
             pages.clearBuffer();
             Expect.same("it is as if nothing was typed", Made.few().digest(), pages.digest());
@@ -187,7 +187,7 @@ final class TextSentences {
     }
 
     private static void firstError(Doc.Section it) {
-        it.says("`int firstError()`: Finds the first syntax error of the buffer.", () -> {
+        it.saysOfCall("`int firstError()`: Finds the first syntax error of the buffer.", () -> {
             SeenPages pages = Made.with("+1,-24,~9,x");
             long before = pages.digest();
             Expect.same("of three", 5, pages.firstError());
@@ -211,7 +211,7 @@ final class TextSentences {
     }
 
     private static void play(Doc.Section it) {
-        it.says("`int play() throws IllegalArgumentException`: Makes the changes in the buffer, one after the other, up to "
+        it.saysOfCall("`int play() throws IllegalArgumentException`: Makes the changes in the buffer, one after the other, up to "
             + "the first one that is not possible, and clears the buffer.", TextSentences::playMakesChanges);
         it.says("Undoable, as one call, also if none is made.", () -> {
             Expect.undoable("three parts", () -> Made.with("+1,1=3,~0"), SeenPages::play);
@@ -249,6 +249,16 @@ final class TextSentences {
         stopsAt("1=4,1=5,+1", "1=4", "it was changed on the way");
         stopsAt("~0,9=1,+1", "~0", "an empty slot to change");
         stopsAt("0=1,~0", "", "it went, the sweep is not made");
+        for (String text : new String[] {"+1", "0=1", "23=9"}) {
+            SeenPages marked = Made.fullAndMarked();
+            Made.type(marked, text);
+            Expect.same("no empty slot: " + text, 0, marked.play());
+            Expect.same("no mark is cleared by " + text, 6, marked.count(5));
+        }
+        SeenPages swept = Made.few();
+        swept.sweepAll();
+        Made.type(swept, "-0");
+        Expect.same("nothing to take, no mark is cleared", 6, swept.play() + swept.count(5));
         SeenPages full = Made.fullBut(23);
         Made.type(full, "+7,+8,-0");
         Expect.same("no empty slot to put", 1, full.play());

@@ -229,7 +229,7 @@ final class UndoSentences {
     }
 
     private static void undo(Doc.Section it) {
-        it.says("`int undo() throws IllegalStateException`: Restores the latest saved state, and drops it.", () -> {
+        it.saysOfCall("`int undo() throws IllegalStateException`: Restores the latest saved state, and drops it.", () -> {
             SeenPages pages = Made.few();
             pages.sweepAll();
             pages.open(1);

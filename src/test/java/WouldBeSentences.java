@@ -18,7 +18,7 @@ final class WouldBeSentences {
     }
 
     private static void holder(Doc.Section it) {
-        it.says("`int holder()`: Finds the asker who holds back most.", () -> {
+        it.saysOfCall("`int holder()`: Finds the asker who holds back most.", () -> {
             SeenPages pages = holding(2);
             Expect.same("asker 2", 2, pages.holder());
             Expect.alike("nothing is changed by it", holding(2), pages);
@@ -104,7 +104,7 @@ final class WouldBeSentences {
     }
 
     private static void marked(Doc.Section it) {
-        it.says("`double marked()`: Returns how many pages are marked.", () -> {
+        it.saysOfCall("`double marked()`: Returns how many pages are marked.", () -> {
             SeenPages pages = Made.fullAndMarked();
             Expect.sameDouble("all", 1.0, pages.marked());
             pages.take(0);
@@ -130,7 +130,7 @@ final class WouldBeSentences {
     }
 
     private static void digest(Doc.Section it) {
-        it.says("`long digest()`: Computes a hash of the whole state.", () -> {
+        it.saysOfCall("`long digest()`: Computes a hash of the whole state.", () -> {
             Expect.same("alike", Made.lived().digest(), Made.lived().digest());
             SeenPages pages = Made.lived();
             pages.digest();
