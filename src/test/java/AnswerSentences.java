@@ -48,11 +48,8 @@ final class AnswerSentences {
 
     private static void byTheTable() {
         Expect.same("two slots in two pages", 2, Made.full().ifAsked(24, 4, 1, 1));
-        SeenPages pages = new SeenPages();
-        Expect.same("an empty table", 0, pages.ifAsked(0, 7, 1, 1));
-        for (int put = 0; put < 24; put++) {
-            pages.put(7);
-        }
+        Expect.same("an empty table", 0, new SeenPages().ifAsked(0, 7, 1, 1));
+        SeenPages pages = Made.fullOf(7);
         Expect.same("all pages, each once", 6, pages.ifAsked(24, 7, 1, 1));
         Expect.same("though a snapshot sees none", 6, pages.ifAsked(0, 7, 1, 1));
         Expect.same("no slots with 0", 0, pages.ifAsked(24, 0, 1, 1));

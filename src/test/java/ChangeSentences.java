@@ -78,7 +78,8 @@ final class ChangeSentences {
     }
 
     private static void take(Doc.Section it) {
-        it.saysOfCall("`int take(int place) throws IndexOutOfBoundsException, IllegalStateException`: Takes a version away.", () -> {
+        it.saysOfCall("`int take(int place) throws IndexOutOfBoundsException, IllegalStateException`: Takes a version "
+            + "away.", () -> {
             SeenPages pages = Made.lived();
             pages.take(6);
             Expect.numbers("it went", what -> pages.slot(6, what), 3, 8, 9, 0);
@@ -91,7 +92,8 @@ final class ChangeSentences {
             Expect.undoable("it clears a mark", Made::fullAndMarked, pages -> pages.take(23));
         });
         it.says("- `place`: 0 to 23", () ->
-            Expect.takes(23, Made::full, (pages, place) -> pages.take(place) + 10 * pages.slot(place, 2), place -> 250 + place % 10));
+            Expect.takes(23, Made::full,
+                (pages, place) -> pages.take(place) + 10 * pages.slot(place, 2), place -> 250 + place % 10));
         it.says("Returns its value.", () -> {
             SeenPages pages = new SeenPages();
             Made.put(pages, 9, 0);

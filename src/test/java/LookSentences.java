@@ -11,8 +11,8 @@ final class LookSentences {
     }
 
     private static void slot(Doc.Section it) {
-        it.saysOfCall("`int slot(int place, int what) throws IndexOutOfBoundsException, IllegalArgumentException`: Returns something "
-            + "of a slot.", () -> looksChangeNothing(24, 4, SeenPages::slot));
+        it.saysOfCall("`int slot(int place, int what) throws IndexOutOfBoundsException, IllegalArgumentException`: Returns "
+            + "something of a slot.", () -> looksChangeNothing(24, 4, SeenPages::slot));
         it.says("- `place`: 0 to 23", () ->
             Expect.takes(23, Made::full, (pages, place) -> pages.slot(place, 1), place -> place + 1));
         it.says("- `what`: 0: its value, NONE if it is empty; 1: the change by which its version came, likewise; 2: the "
@@ -54,8 +54,8 @@ final class LookSentences {
     }
 
     private static void page(Doc.Section it) {
-        it.saysOfCall("`int page(int page, int what) throws IndexOutOfBoundsException, IllegalArgumentException`: Returns something "
-            + "of a page.", () -> looksChangeNothing(6, 5, SeenPages::page));
+        it.saysOfCall("`int page(int page, int what) throws IndexOutOfBoundsException, IllegalArgumentException`: Returns "
+            + "something of a page.", () -> looksChangeNothing(6, 5, SeenPages::page));
         it.says("- `page`: 0 to 5", () ->
             Expect.takes(5, LookSentences::stairs, (pages, page) -> 10 * pages.page(page, 1) + pages.page(page, 2),
                 page -> page < 5 ? 44 - page : 0));

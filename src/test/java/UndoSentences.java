@@ -43,6 +43,7 @@ final class UndoSentences {
             for (int puts = 0; puts <= 20; puts++) {
                 sixAtMost(puts);
             }
+            sixBehindUndos();
         });
     }
 
@@ -136,6 +137,23 @@ final class UndoSentences {
         }
         Expect.throwsState("the oldest ones are dropped", pages::undo);
         Expect.same("clock", puts - saved, pages.count(0));
+    }
+
+    /** What is saved behind some undos drops the oldest of those that are left, too. */
+    private static void sixBehindUndos() {
+        SeenPages pages = new SeenPages();
+        Made.put(pages, 0, 1, 2, 3, 4, 5, 6, 7);
+        for (int undo = 0; undo < 3; undo++) {
+            pages.undo();
+        }
+        Made.put(pages, 9, 8, 7, 6, 5);
+        Expect.same("saved", 6, pages.count(12));
+        for (int clock = 9; clock >= 4; clock--) {
+            pages.undo();
+            Expect.same("clock", clock, pages.count(0));
+        }
+        Expect.throwsState("what is older is dropped", pages::undo);
+        Expect.same("the last one that is left", 3, pages.slot(3, 0));
     }
 
     private static void exceptions(Doc.Section it) {
