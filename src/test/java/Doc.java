@@ -7,13 +7,12 @@ import java.util.List;
 import java.util.Map;
 
 /**
- * The sentences of ../shared/DOC.md, section by section. A test quotes the sentence that it is for;
- * at the end each sentence of the terms and of the promises has been quoted.
+ * The sentences of ../shared/DOC.md, section by section, from its first line on. A test quotes the
+ * sentence that it is for; at the end each one has been quoted, but those on what is not promised.
  */
 final class Doc {
     private static final Path FILE = Path.of("../shared/DOC.md");
-    private static final List<String> WITHOUT_PROMISES =
-        List.of("SeenPages", "What it is", "The public face", "Not promised");
+    private static final String NOT_PROMISED = "Not promised";
 
     /** Each section's text, less what was quoted of it. */
     private final Map<String, String> unquoted = new LinkedHashMap<>();
@@ -30,13 +29,10 @@ final class Doc {
 
     private void read(List<String> lines) {
         String section = "";
-        boolean code = false;
         for (String line : lines) {
-            if (line.startsWith("```")) {
-                code = !code;
-            } else if (line.startsWith("#")) {
+            if (line.startsWith("#")) {
                 section = line.replaceFirst("#+ ", "");
-            } else if (!code) {
+            } else if (!line.startsWith("```")) {
                 unquoted.merge(section, line + "\n", String::concat);
             }
         }
@@ -50,7 +46,7 @@ final class Doc {
     void end() {
         List<String> left = new ArrayList<>();
         unquoted.forEach((section, text) -> {
-            if (!WITHOUT_PROMISES.contains(section) && text.matches("(?s).*\\w.*")) {
+            if (!section.equals(NOT_PROMISED) && !text.isBlank()) {
                 left.add(section + ": " + text.strip());
             }
         });

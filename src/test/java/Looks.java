@@ -1,4 +1,4 @@
-/** All that can be seen of an object, as a text. It takes some 230 calls. */
+/** All that can be seen of an object, as a text. It takes some 150 calls. */
 final class Looks {
     private Looks() {
     }

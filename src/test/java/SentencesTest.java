@@ -1,9 +1,10 @@
 import java.io.IOException;
 
-/** Each sentence of the document's terms and promises has a test of its own, which quotes it. */
+/** Each sentence of the document, from its first line on, has a test of its own, which quotes it. */
 public final class SentencesTest {
     public static void main(String[] args) throws IOException {
         Doc doc = new Doc();
+        FaceSentences.run(doc);
         TableSentences.run(doc);
         AskerSentences.run(doc);
         AnswerSentences.run(doc);

@@ -1,57 +1,14 @@
 import java.util.Arrays;
 
-/** What the document is, and the terms "The table" and "Changes". */
+/** The terms "The table" and "Changes". */
 final class TableSentences {
     private TableSentences() {
     }
 
     static void run(Doc doc) {
-        whatItIs(doc.section("What it is"));
         terms(doc.section("Terms"));
         table(doc.section("The table"));
         changes(doc.section("Changes"));
-    }
-
-    private static void whatItIs(Doc.Section it) {
-        it.says("An object is used for at most 512 calls after it has been made; what later calls answer is free.", () -> {
-            manyChanges();
-            manyQuestions();
-            manySavedStates();
-        });
-    }
-
-    private static void manyChanges() {
-        SeenPages pages = new SeenPages();
-        for (int round = 1; round <= 128; round++) {
-            Expect.same("put", 0, pages.put(round % 10));
-            Expect.same("take", round % 10, pages.take(0));
-            Expect.same("sweep", 1, pages.sweep(0));
-            Expect.same("clock, at last in the 512th call", 2 * round, pages.count(0));
-        }
-    }
-
-    private static void manyQuestions() {
-        SeenPages pages = new SeenPages();
-        pages.open(3);
-        for (int question = 1; question <= 509; question++) {
-            Expect.same("ask", 0, pages.ask(3, 0, 0));
-        }
-        Expect.same("costs", 6 * 509, pages.count(10));
-        Expect.same("questions, in the 512th call", 509, pages.asker(3, 2));
-    }
-
-    private static void manySavedStates() {
-        SeenPages pages = new SeenPages();
-        for (int round = 1; round <= 168; round++) {
-            pages.put(1);
-            pages.take(0);
-            pages.sweep(0);
-        }
-        for (int left = 5; left >= 0; left--) {
-            Expect.same("undo", left, pages.undo());
-        }
-        Expect.throwsState("no seventh", pages::undo);
-        Expect.same("clock, in the 512th call", 2 * 166, pages.count(0));
     }
 
     private static void terms(Doc.Section it) {
